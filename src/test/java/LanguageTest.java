@@ -106,9 +106,7 @@ final class LanguageTest {
 
     private static void source() throws IOException {
         String all = Files.readString(SOURCE);
-        for (int k = 0; k < all.length(); k++) {
-            check.holds("plain signs alone, place " + k, all.charAt(k) < 127);
-        }
+        check.holds("plain signs alone", all.chars().allMatch(c -> c == '\n' || (c >= 32 && c < 127)));
         String code = all.replaceAll("(?s)/\\*.*?\\*/", " ").replaceAll("//[^\n]*", " ").replaceAll("\"[^\"\n]*\"", "\"\"");
         String[] banned = {"throw", "throws", "try", "catch", "synchronized", "assert", "import", "package", "protected",
             "float", "double", "Object", "equals", "hashCode", "toString", "random", "currentTimeMillis", "nanoTime"};

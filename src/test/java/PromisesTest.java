@@ -16,6 +16,7 @@ final class PromisesTest {
         promise5Clear();
         promise6Read();
         promise6Faults();
+        promise6Behind();
         promise6TakesThePlace();
         promise7Minute();
         promise7AllAtOnce();
@@ -263,6 +264,9 @@ final class PromisesTest {
         faultAt("table 0;carrot ", 15);
         faultAt(" tables 0;", 1);
         faultAt("tabl", 0);
+        faultAt("xable 0;", 0);
+        faultAt("tablez 0;", 0);
+        faultAt("table 0;zhild 0 0 0 0;", 8);
         faultAt("table 0;tab", 8);
         faultAt("Table 0;", 0);
         faultAt(";table 0;", 0);
@@ -296,7 +300,29 @@ final class PromisesTest {
         faultAt("table0;child0 0 0 0;child0 1 0 0;child0 2 0 0;child0 3 0 0;child0 4 0 0;child0 5 0 0; child9", 86);
     }
 
+    /** What stood behind a longer text is no part of the shorter one that comes after it. */
+    private static void promise6Behind() {
+        String[][] texts = {{"table 00;", "table 0"}, {"table 0;", "table 0"}, {"tables", "table"}, {"table 0;xy", "table 0;x"}};
+        int[] faults = {7, 7, 5, 8};
+        for (int k = 0; k < faults.length; k++) {
+            BiteChild x = new BiteChild();
+            write(x, texts[k][0]);
+            write(x, texts[k][1]);
+            due("read of '" + texts[k][1] + "' behind '" + texts[k][0] + "'", x.read(), -10 - faults[k]);
+        }
+        StringBuilder full = new StringBuilder("table");
+        while (full.length() < 149) {
+            full.append(' ');
+        }
+        readsAs(full + "7", -10 - 150);
+        readsAs(full + "x", -10 - 149);
+    }
+
     private static void promise6TakesThePlace() {
+        BiteChild bare = biterAndCalm(9);
+        write(bare, "table 5;");
+        due("read() of her alone", bare.read(), 1);
+        numbersAre("read of her alone", bare, 0, 0, 0, 0, 5, 0, 0, 8);
         BiteChild x = biterAndCalm(9);
         x.eyes(5);
         x.image(0);
