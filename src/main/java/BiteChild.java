@@ -190,7 +190,7 @@ public final class BiteChild {
             return refuse(BAD);
         }
         int best = NONE;
-        int fewest = Integer.MAX_VALUE;
+        int fewest = MOST_CHILDREN * m + 1;
         for (int seat = 0; seat < SEATS; seat++) {
             trial.copyFrom(scene.table);
             trial.woman = seat;
@@ -246,7 +246,7 @@ public final class BiteChild {
 
     public int say() {
         int best = NONE;
-        int fewest = Integer.MAX_VALUE;
+        int fewest = MOST_CHILDREN * MINUTES_AHEAD + 1;
         for (int i = 0; i < scene.table.children; i++) {
             trial.copyFrom(scene.table);
             trial.words[i] += 10;
