@@ -1,4 +1,7 @@
-/** For each promise of the document: ordinary inputs, its edges, wrong inputs. All that is due is worked out by hand. */
+/**
+ * For each promise of the document: ordinary inputs, its edges, wrong inputs. What is due was worked
+ * out by hand, but for the sums of promise 28, which a small script apart from this project told.
+ */
 final class PromisesTest {
     private static final int NONE = BiteChild.NONE, BAD = BiteChild.BAD, NO = BiteChild.NO, FULL = BiteChild.FULL;
     private static final int PLAIN = 0, TEETHER = 1, TALKER = 2, COPIER = 3, SORE = 4, CALM = 5;
