@@ -13,6 +13,7 @@ final class ComingBounds {
         carrot();
         helps();
         seated();
+        seatedByAllWays();
         seatedRefused();
         words();
         wordsRefused();
@@ -176,6 +177,26 @@ final class ComingBounds {
         far.stand(1, 0);
         Bounds.due("she stays", far.count(4), 0);
         standIs(3, 0, 8, bitten());
+        // More than one BITE in each MINUTE wherever she stands.
+        int[] bites = new int[8];
+        int best = 0;
+        for (int seat = 0; seat < 8; seat++) {
+            BiteChild x = sixOf(Tables.SORE, Bounds.NONE);
+            x.woman(seat);
+            bites[seat] = x.minute(60);
+            best = bites[seat] < bites[best] ? seat : best;
+        }
+        Bounds.holds("more than one in each MINUTE", bites[best] > 67);
+        standIs(best, bites[best], 60, sixOf(Tables.SORE, Bounds.NONE));
+    }
+
+    /** One of them may have ten WORDS, the others have none. */
+    private static BiteChild sixOf(int kind, int talking) {
+        BiteChild x = new BiteChild();
+        for (int i = 0; i < 6; i++) {
+            x.child(kind, i, i == talking ? 10 : 0, 30 - i);
+        }
+        return x;
     }
 
     private static void standRefused() {
@@ -281,6 +302,62 @@ final class ComingBounds {
         seatsAre(0, x, 0, 1, 2);
     }
 
+    /** KIND, WORDS, HUNGER of each; each way in which they may sit is sat down in a new object. */
+    private static void seatedByAllWays() {
+        int[][][] few = {{{0, 0, 30}}, {{1, 0, 9}, {2, 4, 20}}, {{0, 0, 9}, {0, 0, 6}, {1, 3, 5}},
+            {{0, 0, 30}, {3, 2, 8}, {0, 1, 30}, {5, 0, 21}}};
+        for (int hers = 0; hers < 8; hers++) {
+            for (int[][] children : few) {
+                seatedAsByAllWays(children, hers);
+            }
+        }
+        seatedAsByAllWays(new int[][] {{0, 0, 6}, {0, 0, 9}, {2, 2, 11}, {4, 1, 7}, {1, 0, 30}}, 5);
+        seatedAsByAllWays(new int[][] {{5, 2, 30}, {1, 1, 23}, {2, 4, 23}, {0, 4, 11}, {0, 2, 15}, {2, 5, 4}}, 6);
+        seatedAsByAllWays(new int[][] {{1, 1, 14}, {1, 4, 29}, {4, 3, 8}, {4, 1, 23}, {0, 5, 19}, {0, 0, 14}}, 3);
+        seatedAsByAllWays(new int[][] {{5, 4, 0}, {0, 4, 9}, {5, 3, 11}, {1, 1, 8}, {2, 2, 29}, {3, 4, 16}}, 0);
+    }
+
+    private static void seatedAsByAllWays(int[][] children, int hers) {
+        int[] fewest = {Bounds.MAX};
+        int[] way = new int[children.length];
+        tryWays(children, hers, new int[children.length], 0, fewest, way);
+        int[] now = new int[children.length];
+        for (int i = 0; i < now.length; i++) {
+            now[i] = 7 - i;
+        }
+        seatsAre(fewest[0], sitting(children, hers, now), way);
+    }
+
+    private static BiteChild sitting(int[][] children, int hers, int[] seats) {
+        BiteChild x = new BiteChild();
+        x.table(hers);
+        for (int i = 0; i < children.length; i++) {
+            x.child(children[i][0], seats[i], children[i][1], children[i][2]);
+        }
+        return x;
+    }
+
+    private static void tryWays(int[][] children, int hers, int[] seats, int placed, int[] fewest, int[] way) {
+        if (placed == children.length) {
+            int bites = sitting(children, hers, seats).minute(1);
+            if (bites < fewest[0]) {
+                fewest[0] = bites;
+                System.arraycopy(seats, 0, way, 0, placed);
+            }
+            return;
+        }
+        for (int seat = 0; seat < 8; seat++) {
+            boolean free = true;
+            for (int i = 0; i < placed; i++) {
+                free &= seats[i] != seat;
+            }
+            if (free) {
+                seats[placed] = seat;
+                tryWays(children, hers, seats, placed + 1, fewest, way);
+            }
+        }
+    }
+
     private static void seatedRefused() {
         Bounds.promise(18, "SEATED: how many (i = NONE; 0: nobody is there), the SEAT of one. BAD: -10.");
         Bounds.asked("seated(NONE) with nobody", Tables::fresh, x -> x.seated(Bounds.NONE), 0);
@@ -339,6 +416,14 @@ final class ComingBounds {
         Bounds.asked("say(), beyond 20", () -> Tables.pairTurned(Tables.PLAIN, 20, 19), BiteChild::say, 1);
         Bounds.asked("say(), of like ones", () -> Tables.pairTurned(Tables.CALM, 20, 0), BiteChild::say, 0);
         Bounds.asked("say(), the last", ComingBounds::lastIsHungry, BiteChild::say, 5);
+        int[] bites = new int[6];
+        int best = 0;
+        for (int i = 0; i < 6; i++) {
+            bites[i] = sixOf(Tables.TEETHER, i).minute(20);
+            best = bites[i] < bites[best] ? i : best;
+        }
+        Bounds.holds("more than one in each MINUTE", bites[best] > 27);
+        Bounds.asked("say() of six who bite", () -> sixOf(Tables.TEETHER, Bounds.NONE), BiteChild::say, best);
     }
 
     private static void sayNone() {

@@ -265,8 +265,12 @@ final class KeptBounds {
                 Bounds.due("undo() from an IMAGE", x.undo(), n < 5 ? 2 : 0);
             }
             x.forget();
+            for (int n = 0; n < 6; n++) {
+                x.note(n % 3, n + 10, n % 2, 19 - n, 9 - n, n, 40 + k);
+            }
             x.from(1);
             Bounds.due("digest() from an IMAGE again", x.digest(), kept);
+            Bounds.due("is(1) by the NOTES of the IMAGE", x.is(1), 16);
         }
     }
 

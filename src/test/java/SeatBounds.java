@@ -11,6 +11,7 @@ final class SeatBounds {
         atFirst();
         newObject();
         tableAnew();
+        fewerThanBefore();
         tableRefused();
         childTaken();
         childRefused();
@@ -167,6 +168,35 @@ final class SeatBounds {
         Bounds.due("from(0) behind table", x.from(0), 1);
         Bounds.due("NOTES from the IMAGE", x.count(5), 6);
         Bounds.due("child behind table, on a SEAT that was taken", seatsAreFree(), 0);
+    }
+
+    /** Two sit where six hungry ones did: nothing of those who went is in what comes. */
+    private static void fewerThanBefore() {
+        BiteChild x = Tables.sixHungry();
+        x.minute(3);
+        x.table(0);
+        BiteChild y = new BiteChild();
+        for (BiteChild each : new BiteChild[] {x, y}) {
+            each.child(Tables.PLAIN, 4, 0, 8);
+            each.child(Tables.SORE, 5, 0, 8);
+        }
+        x.woman(4);
+        y.woman(4);
+        for (int i = 0; i < 2; i++) {
+            Bounds.due("TIGHT behind table", x.of(i, 5), 1);
+            Bounds.due("seated behind table", x.seated(i), y.seated(i));
+            Bounds.due("who behind table", x.who(i), 2 - i);
+        }
+        Bounds.due("seated(NONE) behind table", x.seated(Bounds.NONE), 0);
+        Bounds.due("then behind table", x.then(60, Bounds.NONE), y.then(60, Bounds.NONE));
+        Bounds.due("stand behind table", x.stand(60, 1), y.stand(60, 1));
+        Bounds.due("helps behind table", x.helps(), y.helps());
+        Bounds.due("say behind table", x.say(), y.say());
+        Bounds.due("weeks behind table", x.weeks(9, 60), y.weeks(9, 60));
+        Bounds.due("eyes behind table", x.eyes(0), 1);
+        Bounds.due("above behind table", x.part(0), 0);
+        y.eyes(0);
+        Bounds.alike("behind table", x, y);
     }
 
     private static long seatsAreFree() {
