@@ -22,6 +22,7 @@ final class LanguageTest {
         face();
         classesInside();
         source();
+        sections();
         check.end();
     }
 
@@ -120,5 +121,26 @@ final class LanguageTest {
             lines = line.matches(" {4}(?: {4})?\\}") ? 0 : lines + 1;
             check.holds("a method of some sixty lines at most", lines <= 70);
         }
+    }
+
+    /** "Ahead of the calls `a`, `b` the interface says: ---- x.": so it stands in the source, in that order. */
+    private static void sections() throws IOException {
+        String source = Files.readString(SOURCE);
+        Matcher section = Pattern.compile("Ahead of the calls ([^\n]*) the interface says: (---- [^.\n]*)\\.")
+            .matcher(Files.readString(DOCUMENT));
+        int at = 0;
+        int found = 0;
+        while (section.find()) {
+            at = source.indexOf("// " + section.group(2) + "\n", at);
+            check.holds("says " + section.group(2), at >= 0);
+            for (String call : section.group(1).replace("`", "").split(", ")) {
+                int next = Math.max(source.indexOf("public int " + call + "(", at), source.indexOf("public long " + call + "(", at));
+                int heading = source.indexOf("// ----", at + 1);
+                check.holds(call + " stands behind " + section.group(2), next > 0 && (heading > next || heading < 0));
+                at = Math.max(at, next);
+            }
+            found++;
+        }
+        check.due("sections of the interface", found, 5);
     }
 }
